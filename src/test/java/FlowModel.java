@@ -170,7 +170,7 @@ final class FlowModel {
     }
 
     static int glyph(char c) {
-        return "iljI".indexOf(c) >= 0 && c != 'I' || ".,':;!|".indexOf(c) >= 0 ? 2 : "mwMW@".indexOf(c) >= 0 ? 5 : 4;
+        return "ilj.,':;!|".indexOf(c) >= 0 ? 2 : "mwMW@".indexOf(c) >= 0 ? 5 : 4;
     }
 
     private static int glyphs(String s) {
