@@ -523,7 +523,6 @@ public final class LineFlow {
         }
 
         void open(int leftEdge, int rightEdge) {
-            drop();
             reached = leftEdge;
             right = rightEdge;
         }
@@ -646,7 +645,6 @@ public final class LineFlow {
 
         void layRoot(Node root, int width) {
             wordCount = 0;
-            root.floating = false;
             prepare(root, root.has[DISPLAY]);
             layElement(root, 0, 0, width);
         }

@@ -203,6 +203,37 @@ public final class BlockTest {
         Check.due("deep in a float", flow.box(deepInFloat, 1), 2 + 6);
     }
 
+    private static void oneEndJoins() {
+        LineFlow flow = new LineFlow();
+        int below = Check.element(flow, 0, Check.MARGIN, 1);
+        Check.text(flow, below, "a");
+        int last = Check.element(flow, below, Check.MARGIN, 4, Check.HEIGHT, 2);
+        int above = Check.element(flow, 0, Check.MARGIN, 1);
+        int first = Check.element(flow, above, Check.MARGIN, 6, Check.HEIGHT, 2);
+        Check.text(flow, above, "b");
+        margins("BOTTOM alone", flow, below, 1, 4);
+        margins("TOP alone", flow, above, 6, 1);
+        Check.due("height", flow.lay(40), 1 + 13 + 6 + 15 + 1);
+        Check.dueBox("BOTTOM alone", flow, below, 1, 1, 38, 13);
+        Check.dueBox("last", flow, last, 5, 12, 30, 2);
+        Check.dueBox("TOP alone", flow, above, 1, 20, 38, 15);
+        Check.dueBox("first", flow, first, 7, 20, 26, 2);
+    }
+
+    private static void deepest() {
+        LineFlow flow = new LineFlow();
+        for (int deep = 1; deep <= 12; deep++) {
+            Check.element(flow, deep - 1, Check.MARGIN, deep % 2, Check.PADDING, deep % 3);
+        }
+        Check.having(flow, 12, Check.HEIGHT, 5, Check.MARGIN, 7);
+        margins("12 deep", flow, 12, 7, 7);
+        margins("10 deep, padding within", flow, 9, 1, 1);
+        Check.due("height", flow.lay(400), 5 + 14 + 2 * (1 + 2 + 1 + 2 + 1 + 2 + 1 + 2) + 2 * 6);
+        Check.due("x of the deepest", flow.box(12, 0), 12 + 6 + 7);
+        Check.due("width of the deepest", flow.box(12, 2), 400 - 50);
+        Check.due("height of the deepest", flow.box(12, 3), 5);
+    }
+
     public static void main(String[] args) {
         rootWidth();
         boxes();
@@ -213,6 +244,8 @@ public final class BlockTest {
         joinedWhicheverIsGreater();
         whatKeepsApart();
         marginOfOthers();
+        oneEndJoins();
+        deepest();
         Check.finish();
     }
 }

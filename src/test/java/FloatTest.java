@@ -179,6 +179,21 @@ public final class FloatTest {
         Check.dueBox("at the line's y", flow, next, 40, 7, 5, 1);
     }
 
+    /** Nothing of one laying is left in the next one. */
+    private static void laidAgain() {
+        LineFlow flow = new LineFlow();
+        Check.text(flow, 0, "ab cd ef");
+        int late = floating(flow, 0, 1, 5, 3, 0);
+        int last = floating(flow, 0, 2, 5, 3, 0);
+        Check.due("narrow", flow.lay(20), 7 + 7 + 3);
+        Check.dueBox("narrow", flow, late, 0, 14, 5, 3);
+        Check.due("wide", flow.lay(60), 7 + 3);
+        Check.dueBox("wide", flow, late, 0, 7, 5, 3);
+        Check.dueBox("wide", flow, last, 55, 7, 5, 3);
+        Check.due("narrow again", flow.lay(20), 7 + 7 + 3);
+        Check.dueBox("narrow again", flow, last, 15, 14, 5, 3);
+    }
+
     public static void main(String[] args) {
         bothSides();
         heightOfFloats();
@@ -192,6 +207,7 @@ public final class FloatTest {
         displays();
         wordsInTreeOrder();
         breakBesideFloats();
+        laidAgain();
         Check.finish();
     }
 }

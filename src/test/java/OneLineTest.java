@@ -20,8 +20,14 @@ public final class OneLineTest {
         Check.due("line of b", flow.line(b), 4 * 7);
         Check.due("line of c", flow.line(c), 0);
         Check.due("line of d", flow.line(d), 4);
+        int glyph = Check.element(flow, c);
+        Check.text(flow, glyph, "g");
+        Check.due("line of d again", flow.line(d), 4);
+        Check.due("no blank of another call", flow.line(glyph), 4);
+        Check.tape(flow, "");
+        flow.text(glyph + 1);
         Check.due("line of the root", flow.line(0), 8 + 3 + 7 + 4 + 3 + 4);
-        for (int n : new int[] {-1, text, aBreak, piece, d + 2, 60, Integer.MIN_VALUE, Integer.MAX_VALUE}) {
+        for (int n : new int[] {-1, text, aBreak, piece, glyph + 1, glyph + 2, 60, Integer.MIN_VALUE, Integer.MAX_VALUE}) {
             Check.due("line of " + n, flow.line(n), NONE);
         }
         flow.lay(50);
