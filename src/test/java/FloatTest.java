@@ -192,6 +192,9 @@ public final class FloatTest {
         Check.dueBox("wide", flow, last, 55, 7, 5, 3);
         Check.due("narrow again", flow.lay(20), 7 + 7 + 3);
         Check.dueBox("narrow again", flow, last, 15, 14, 5, 3);
+        flow.set(last, Check.DISPLAY, 3);
+        Check.due("without the last", flow.lay(20), 7 + 7 + 3);
+        Check.dueNoBox("without the last", flow, last);
     }
 
     public static void main(String[] args) {
