@@ -851,11 +851,13 @@ public final class LineFlow {
                     return;
                 }
                 // What is ahead of a word in its text is always a blank.
-                flow.blanksAhead |= word.firstByte > 0;
+                flow.blanksAhead = flow.blanksAhead || word.firstByte > 0;
                 addItem(flow, word.box, text.has[SIZE]);
             }
             int count = text.bytes.length;
-            flow.blanksAhead |= count > 0 && Ruler.isBlank(text.bytes[count - 1]);
+            if (count > 0 && Ruler.isBlank(text.bytes[count - 1])) {
+                flow.blanksAhead = true;
+            }
         }
 
         private void addBreak(Flow flow, Node thing) {
