@@ -117,11 +117,6 @@ public final class BlockTest {
         Check.dueNoBox("text", flow, text);
     }
 
-    private static void margins(String what, LineFlow flow, int n, int top, int bottom) {
-        Check.due(what + ": TOP of " + n, flow.margin(n, false), top);
-        Check.due(what + ": BOTTOM of " + n, flow.margin(n, true), bottom);
-    }
-
     private static void joins() {
         LineFlow flow = new LineFlow();
         int outer = Check.element(flow, 0, Check.MARGIN, 5);
@@ -131,11 +126,11 @@ public final class BlockTest {
         int last = Check.element(flow, outer, Check.MARGIN, 7, Check.DISPLAY, 2);
         int inLast = Check.element(flow, last, Check.MARGIN, 20, Check.HEIGHT, 1);
         int goneLast = Check.element(flow, outer, Check.DISPLAY, 3, Check.MARGIN, 40);
-        margins("joined", flow, outer, 9, 7);
-        margins("joined", flow, first, 9, 9);
-        margins("a flex joins not what is in it", flow, last, 7, 7);
-        margins("in a flex", flow, inLast, 20, 20);
-        margins("gone", flow, gone, NONE, NONE);
+        Check.dueMargins("joined", flow, outer, 9, 7);
+        Check.dueMargins("joined", flow, first, 9, 9);
+        Check.dueMargins("a flex joins not what is in it", flow, last, 7, 7);
+        Check.dueMargins("in a flex", flow, inLast, 20, 20);
+        Check.dueMargins("gone", flow, gone, NONE, NONE);
         Check.due("height", flow.lay(60), 9 + 3 + 9 + 41 + 7);
         Check.dueBox("outer", flow, outer, 5, 9, 50, 53);
         Check.dueBox("first", flow, first, 7, 9, 46, 3);
@@ -144,24 +139,24 @@ public final class BlockTest {
         Check.dueBox("in last", flow, inLast, 32, 41, 0, 1);
         Check.dueNoBox("gone", flow, goneLast);
         flow.set(outer, Check.HEIGHT, 53);
-        margins("a height that is told", flow, outer, 9, 5);
+        Check.dueMargins("a height that is told", flow, outer, 9, 5);
         flow.set(outer, Check.PADDING, 1);
-        margins("padding", flow, outer, 5, 5);
+        Check.dueMargins("padding", flow, outer, 5, 5);
         flow.set(outer, Check.PADDING, 0);
         flow.set(outer, Check.BORDER, 1);
-        margins("border", flow, outer, 5, 5);
+        Check.dueMargins("border", flow, outer, 5, 5);
         flow.set(outer, Check.BORDER, 0);
         flow.set(outer, Check.HEIGHT, NONE);
         flow.set(0, Check.DISPLAY, 2);
-        margins("in a flex", flow, outer, 5, 5);
-        margins("deeper in a flex", flow, first, 9, 9);
+        Check.dueMargins("in a flex", flow, outer, 5, 5);
+        Check.dueMargins("deeper in a flex", flow, first, 9, 9);
     }
 
     private static void joinedWhicheverIsGreater() {
         LineFlow flow = new LineFlow();
         int outer = Check.element(flow, 0, Check.MARGIN, 8);
         int in = Check.element(flow, outer, Check.MARGIN, 3, Check.HEIGHT, 2);
-        margins("the lesser within", flow, outer, 8, 8);
+        Check.dueMargins("the lesser within", flow, outer, 8, 8);
         Check.due("height", flow.lay(40), 18);
         Check.dueBox("outer", flow, outer, 8, 8, 24, 2);
         Check.dueBox("in", flow, in, 11, 8, 18, 2);
@@ -173,7 +168,7 @@ public final class BlockTest {
         Check.text(flow, outer, "");
         int in = Check.element(flow, outer, Check.MARGIN, 6, Check.HEIGHT, 2);
         int aFloat = Check.element(flow, outer, Check.FLOAT, 1);
-        margins("a text first, a float last", flow, outer, 1, 1);
+        Check.dueMargins("a text first, a float last", flow, outer, 1, 1);
         Check.due("height", flow.lay(40), 1 + 6 + 2 + 6 + 1);
         Check.dueBox("in", flow, in, 7, 7, 26, 2);
         Check.dueBox("float", flow, aFloat, 1, 15, 0, 0);
@@ -191,12 +186,12 @@ public final class BlockTest {
         int aBreak = Check.breakIn(flow, 0);
         int piece = Check.piece(flow, 0, Check.MARGIN, 3);
         for (int n : new int[] {-1, 0, inline, aFloat, text, aBreak, piece, piece + 1, 60}) {
-            margins("none such", flow, n, NONE, NONE);
+            Check.dueMargins("none such", flow, n, NONE, NONE);
         }
-        margins("in an inline one", flow, inInline, 3, 3);
-        margins("deep in an inline one", flow, deeper, 4, 4);
-        margins("in a float", flow, inFloat, 6, 6);
-        margins("deep in a float", flow, deepInFloat, 6, 6);
+        Check.dueMargins("in an inline one", flow, inInline, 3, 3);
+        Check.dueMargins("deep in an inline one", flow, deeper, 4, 4);
+        Check.dueMargins("in a float", flow, inFloat, 6, 6);
+        Check.dueMargins("deep in a float", flow, deepInFloat, 6, 6);
         flow.lay(50);
         Check.due("a float joins nothing", flow.box(aFloat, 3), 12);
         Check.due("in a float", flow.box(inFloat, 1), 2 + 6);
@@ -211,8 +206,8 @@ public final class BlockTest {
         int above = Check.element(flow, 0, Check.MARGIN, 1);
         int first = Check.element(flow, above, Check.MARGIN, 6, Check.HEIGHT, 2);
         Check.text(flow, above, "b");
-        margins("BOTTOM alone", flow, below, 1, 4);
-        margins("TOP alone", flow, above, 6, 1);
+        Check.dueMargins("BOTTOM alone", flow, below, 1, 4);
+        Check.dueMargins("TOP alone", flow, above, 6, 1);
         Check.due("height", flow.lay(40), 1 + 13 + 6 + 15 + 1);
         Check.dueBox("BOTTOM alone", flow, below, 1, 1, 38, 13);
         Check.dueBox("last", flow, last, 5, 12, 30, 2);
@@ -226,8 +221,8 @@ public final class BlockTest {
             Check.element(flow, deep - 1, Check.MARGIN, deep % 2, Check.PADDING, deep % 3);
         }
         Check.having(flow, 12, Check.HEIGHT, 5, Check.MARGIN, 7);
-        margins("12 deep", flow, 12, 7, 7);
-        margins("10 deep, padding within", flow, 9, 1, 1);
+        Check.dueMargins("12 deep", flow, 12, 7, 7);
+        Check.dueMargins("10 deep, padding within", flow, 9, 1, 1);
         Check.due("height", flow.lay(400), 5 + 14 + 2 * (1 + 2 + 1 + 2 + 1 + 2 + 1 + 2) + 2 * 6);
         Check.due("x of the deepest", flow.box(12, 0), 12 + 6 + 7);
         Check.due("width of the deepest", flow.box(12, 2), 400 - 50);

@@ -11,15 +11,21 @@ final class Check {
     static final int SIZE = 8;
 
     private static int wrong = 0;
+    private static String sentence = "";
 
     private Check() {
+    }
+
+    /** The sentence of the document that the next answers test; it is named with each that is not as due. */
+    static void sentence(String told) {
+        sentence = "'" + told + "': ";
     }
 
     static void due(String what, long got, long want) {
         if (got != want) {
             wrong++;
             if (wrong <= 50) {
-                System.out.println(what + " answered " + got + ", due is " + want);
+                System.out.println(sentence + what + " answered " + got + ", due is " + want);
             }
         }
     }
@@ -41,7 +47,10 @@ final class Check {
             }
             flow.feed(five[0], five[1], five[2], five[3], five[4]);
         }
-        due("end of the tape", flow.end(s.length()), s.length());
+        // An object has 512 calls alone: none is spent where the last twenty bytes are whole.
+        if (s.length() % 20 != 0) {
+            due("end of the tape", flow.end(s.length()), s.length());
+        }
     }
 
     static int text(LineFlow flow, int parent, String s) {
@@ -79,6 +88,33 @@ final class Check {
 
     static void dueNoBox(String what, LineFlow flow, int n) {
         dueBox(what, flow, n, LineFlow.NONE, LineFlow.NONE, LineFlow.NONE, LineFlow.NONE);
+    }
+
+    /** TOP and BOTTOM. */
+    static void dueMargins(String what, LineFlow flow, int n, int top, int bottom) {
+        due(what + ": TOP of " + n, flow.margin(n, false), top);
+        due(what + ": BOTTOM of " + n, flow.margin(n, true), bottom);
+    }
+
+    /** A float with a width and a height that are told. */
+    static int floating(LineFlow flow, int parent, int side, int width, int height, int margin) {
+        return element(flow, parent, FLOAT, side, WIDTH, width, HEIGHT, height, MARGIN, margin);
+    }
+
+    /** What a node of that kind has at first, told to it again: each answer is the same. */
+    static void dueAsAtFirst(String what, LineFlow flow, int n, int kind) {
+        int[] first = {kind == 0 ? 0 : 1, 0, LineFlow.NONE, LineFlow.NONE, 0, 0, 0, 0, 1};
+        for (int i = 0; i < first.length; i++) {
+            due(what + ": " + i + " of " + n, flow.set(n, i, first[i]), first[i]);
+        }
+    }
+
+    /** The widths of all words of the latest laying; there are no more. */
+    static void dueWidths(String what, LineFlow flow, int... widths) {
+        due(what + ": words", flow.words(), widths.length);
+        for (int i = 0; i < widths.length; i++) {
+            due(what + ": width of word " + i, flow.word(i, 3), widths[i]);
+        }
     }
 
     /** x and y of the words from the first one on, in pairs; there are no more. */

@@ -1,14 +1,9 @@
 /** Promises 8, 9 and 11: floats, and the lines that go round them. */
 public final class FloatTest {
-    private static int floating(LineFlow flow, int parent, int side, int width, int height, int margin) {
-        return Check.element(flow, parent, Check.FLOAT, side, Check.WIDTH, width, Check.HEIGHT, height,
-                Check.MARGIN, margin);
-    }
-
     private static void bothSides() {
         LineFlow flow = new LineFlow();
-        int left = floating(flow, 0, 1, 6, 8, 2);
-        int right = floating(flow, 0, 2, 7, 5, 1);
+        int left = Check.floating(flow, 0, 1, 6, 8, 2);
+        int right = Check.floating(flow, 0, 2, 7, 5, 1);
         Check.text(flow, 0, "abc def ghi jk lm abcdef");
         Check.due("height", flow.lay(50), 21);
         Check.dueBox("left", flow, left, 2, 2, 6, 8);
@@ -22,7 +17,7 @@ public final class FloatTest {
     private static void heightOfFloats() {
         LineFlow flow = new LineFlow();
         int block = Check.element(flow, 0, Check.PADDING, 1);
-        int left = floating(flow, block, 1, 6, 8, 2);
+        int left = Check.floating(flow, block, 1, 6, 8, 2);
         int next = Check.element(flow, 0, Check.HEIGHT, 3);
         Check.due("height", flow.lay(30), 14 + 3);
         Check.dueBox("with the float's margins and its own padding", flow, block, 0, 0, 30, 14);
@@ -36,7 +31,7 @@ public final class FloatTest {
     private static void blocksBehind() {
         LineFlow flow = new LineFlow();
         int first = Check.element(flow, 0, Check.HEIGHT, 5, Check.MARGIN, 3);
-        int left = floating(flow, 0, 1, 6, 8, 2);
+        int left = Check.floating(flow, 0, 1, 6, 8, 2);
         int low = Check.element(flow, 0, Check.HEIGHT, 1, Check.MARGIN, 4);
         int after = Check.element(flow, 0, Check.HEIGHT, 1, Check.MARGIN, 20);
         Check.due("height", flow.lay(30), 23 + 1 + 20 + 1 + 20);
@@ -52,8 +47,8 @@ public final class FloatTest {
     private static void waiting() {
         LineFlow flow = new LineFlow();
         Check.text(flow, 0, "ab ");
-        int left = floating(flow, 0, 1, 5, 9, 0);
-        int second = floating(flow, 0, 1, 4, 2, 0);
+        int left = Check.floating(flow, 0, 1, 5, 9, 0);
+        int second = Check.floating(flow, 0, 1, 4, 2, 0);
         Check.text(flow, 0, "c defg");
         Check.due("height", flow.lay(25), 16);
         Check.dueBox("waits for the line's end", flow, left, 0, 7, 5, 9);
@@ -61,10 +56,10 @@ public final class FloatTest {
         Check.dueWords("round both", flow, 0, 0, 11, 0, 9, 7);
         LineFlow broken = new LineFlow();
         Check.text(broken, 0, "ab");
-        int waits = floating(broken, 0, 2, 5, 9, 0);
+        int waits = Check.floating(broken, 0, 2, 5, 9, 0);
         Check.breakIn(broken, 0);
         Check.text(broken, 0, "c");
-        int last = floating(broken, 0, 2, 5, 9, 0);
+        int last = Check.floating(broken, 0, 2, 5, 9, 0);
         Check.due("height", broken.lay(25), 7 + 7 + 9);
         Check.dueBox("the break ends the line", broken, waits, 20, 7, 5, 9);
         Check.dueBox("the last line ends", broken, last, 15, 14, 5, 9);
@@ -72,11 +67,11 @@ public final class FloatTest {
 
     private static void noRoom() {
         LineFlow flow = new LineFlow();
-        int tall = floating(flow, 0, 1, 10, 20, 0);
-        int low = floating(flow, 0, 2, 10, 6, 0);
-        int wide = floating(flow, 0, 1, 25, 3, 0);
-        int small = floating(flow, 0, 2, 2, 2, 0);
-        int wider = floating(flow, 0, 2, 40, 4, 1);
+        int tall = Check.floating(flow, 0, 1, 10, 20, 0);
+        int low = Check.floating(flow, 0, 2, 10, 6, 0);
+        int wide = Check.floating(flow, 0, 1, 25, 3, 0);
+        int small = Check.floating(flow, 0, 2, 2, 2, 0);
+        int wider = Check.floating(flow, 0, 2, 40, 4, 1);
         Check.due("height", flow.lay(30), 29);
         Check.dueBox("tall", flow, tall, 0, 0, 10, 20);
         Check.dueBox("low", flow, low, 20, 0, 10, 6);
@@ -87,8 +82,8 @@ public final class FloatTest {
 
     private static void justGoes() {
         LineFlow flow = new LineFlow();
-        floating(flow, 0, 1, 10, 20, 0);
-        int fits = floating(flow, 0, 2, 16, 6, 2);
+        Check.floating(flow, 0, 1, 10, 20, 0);
+        int fits = Check.floating(flow, 0, 2, 16, 6, 2);
         flow.lay(30);
         Check.dueBox("goes with margins", flow, fits, 12, 2, 16, 6);
         flow.lay(29);
@@ -97,8 +92,8 @@ public final class FloatTest {
 
     private static void itemsBelowFloats() {
         LineFlow flow = new LineFlow();
-        floating(flow, 0, 1, 10, 9, 0);
-        floating(flow, 0, 2, 10, 5, 0);
+        Check.floating(flow, 0, 1, 10, 9, 0);
+        Check.floating(flow, 0, 2, 10, 5, 0);
         Check.text(flow, 0, "abcd efgh ijklmnop");
         Check.due("height", flow.lay(28), 5 + 7 + 7 + 7);
         Check.dueWords("to the least end of these", flow, 10, 5, 0, 12, 0, 19);
@@ -109,7 +104,7 @@ public final class FloatTest {
 
     private static void edgeOfAt() {
         LineFlow flow = new LineFlow();
-        floating(flow, 0, 1, 10, 3, 2);
+        Check.floating(flow, 0, 1, 10, 3, 2);
         Check.text(flow, 0, "a");
         Check.breakIn(flow, 0);
         Check.text(flow, 0, "b");
@@ -172,9 +167,9 @@ public final class FloatTest {
 
     private static void breakBesideFloats() {
         LineFlow flow = new LineFlow();
-        floating(flow, 0, 1, 40, 30, 0);
+        Check.floating(flow, 0, 1, 40, 30, 0);
         Check.breakIn(flow, 0);
-        int next = floating(flow, 0, 1, 5, 1, 0);
+        int next = Check.floating(flow, 0, 1, 5, 1, 0);
         Check.due("height", flow.lay(60), 30);
         Check.dueBox("at the line's y", flow, next, 40, 7, 5, 1);
     }
@@ -183,8 +178,8 @@ public final class FloatTest {
     private static void laidAgain() {
         LineFlow flow = new LineFlow();
         Check.text(flow, 0, "ab cd ef");
-        int late = floating(flow, 0, 1, 5, 3, 0);
-        int last = floating(flow, 0, 2, 5, 3, 0);
+        int late = Check.floating(flow, 0, 1, 5, 3, 0);
+        int last = Check.floating(flow, 0, 2, 5, 3, 0);
         Check.due("narrow", flow.lay(20), 7 + 7 + 3);
         Check.dueBox("narrow", flow, late, 0, 14, 5, 3);
         Check.due("wide", flow.lay(60), 7 + 3);

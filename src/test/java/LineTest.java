@@ -2,22 +2,6 @@
 public final class LineTest {
     private static final int NONE = LineFlow.NONE;
 
-    private static void glyphs() {
-        LineFlow flow = new LineFlow();
-        String two = "ilj.,':;!|";
-        String five = "mwMW@";
-        for (int c = 0; c < 256; c++) {
-            flow.clear();
-            Check.text(flow, 0, String.valueOf((char) c));
-            flow.lay(20);
-            boolean blank = c == 10 || c == 32;
-            int due = blank ? NONE : two.indexOf(c) >= 0 ? 2 : five.indexOf(c) >= 0 ? 5 : 4;
-            Check.due("words of byte " + c, flow.words(), blank ? 0 : 1);
-            Check.due("width of byte " + c, flow.word(0, 3), due);
-            Check.due("height of byte " + c, flow.box(0, 3), blank ? 0 : 7);
-        }
-    }
-
     private static void dueWord(LineFlow flow, int i, int... what) {
         for (int k = 0; k < what.length; k++) {
             Check.due("word(" + i + ", " + k + ")", flow.word(i, k), what[k]);
@@ -168,23 +152,7 @@ public final class LineTest {
         Check.dueWords("behind a block", flow, 0, 0, 0, 20);
     }
 
-    /** 59 texts of 60 words: the most that there can be. */
-    private static void most() {
-        LineFlow flow = new LineFlow();
-        String s = "a ".repeat(60);
-        for (int i = 0; i < 59; i++) {
-            Check.text(flow, 0, s);
-        }
-        Check.due("words before", flow.words(), 0);
-        Check.due("height", flow.lay(20), 3540 / 3 * 7 + 0);
-        Check.due("words", flow.words(), 3540);
-        Check.due("last one's text", flow.word(3539, 0), 59);
-        Check.due("last one's first byte", flow.word(3539, 5), 118);
-        Check.due("no more", flow.word(3540, 0), NONE);
-    }
-
     public static void main(String[] args) {
-        glyphs();
         words();
         treeOrder();
         breaking();
@@ -194,7 +162,6 @@ public final class LineTest {
         breaks();
         blanksAcross();
         linesAndBlocks();
-        most();
         Check.finish();
     }
 }
