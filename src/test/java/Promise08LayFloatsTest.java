@@ -326,6 +326,38 @@ public final class Promise08LayFloatsTest {
         Check.dueBox("at the next line's y", flow, next, 60, 7, 0, 1);
     }
 
+    private static void floatsLater() {
+        Check.sentence("All is laid: nothing of an earlier laying counts");
+        LineFlow flow = new LineFlow();
+        flow.set(0, Check.ALIGN, 2);
+        Check.text(flow, 0, "x");
+        int element = Check.element(flow, 0, Check.DISPLAY, 1, Check.ALIGN, 2, Check.WIDTH, 30);
+        Check.text(flow, element, "m");
+        Check.text(flow, 0, "y");
+        flow.lay(60);
+        Check.dueWords("inline", flow, 47, 0, 51, 0, 56, 0);
+        flow.set(element, Check.FLOAT, LEFT);
+        flow.lay(60);
+        Check.dueWords("a float that waits", flow, 52, 0, 25, 7, 56, 0);
+        flow.set(element, Check.FLOAT, 0);
+        flow.lay(60);
+        Check.dueWords("inline again", flow, 47, 0, 51, 0, 56, 0);
+    }
+
+    private static void goneLater() {
+        Check.sentence("All is laid: a FLOAT that has DISPLAY none now is not put");
+        LineFlow flow = new LineFlow();
+        Check.text(flow, 0, "a");
+        int first = Check.floating(flow, 0, LEFT, 5, 3, 0);
+        int last = Check.floating(flow, 0, RIGHT, 5, 9, 0);
+        Check.due("both", flow.lay(40), 16);
+        Check.dueBox("last", flow, last, 35, 7, 5, 9);
+        flow.set(last, Check.DISPLAY, 3);
+        Check.due("the first alone", flow.lay(40), 10);
+        Check.dueBox("first", flow, first, 0, 7, 5, 3);
+        Check.dueNoBox("last", flow, last);
+    }
+
     public static void main(String[] args) {
         edges();
         atTop();
@@ -350,6 +382,8 @@ public final class Promise08LayFloatsTest {
         allTheSame();
         atTheEdge();
         breakBeside();
+        floatsLater();
+        goneLater();
         Check.finish();
     }
 }

@@ -95,6 +95,14 @@ public final class Promise08LayLinesTest {
         Check.text(apart, inline, " b");
         apart.lay(60);
         Check.dueWords("blanks in three texts", apart, 0, 0, 7, 0);
+        String[][] texts = {{"a", " ", "b"}, {"a", "\nb", ""}, {"a ", "", "b"}, {"", "a ", "b"}, {"a", "", "b"}};
+        for (int i = 0; i < texts.length; i++) {
+            LineFlow three = withText(texts[i][0]);
+            Check.text(three, 0, texts[i][1]);
+            Check.text(three, 0, texts[i][2]);
+            three.lay(60);
+            Check.dueWords("one blank, case " + i, three, 0, 0, i == 4 ? 4 : 7, 0);
+        }
     }
 
     private static void onItsLine() {

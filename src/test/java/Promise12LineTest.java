@@ -60,6 +60,13 @@ public final class Promise12LineTest {
         Check.due("in texts of their own", flow.line(0), 4);
         Check.text(flow, 0, "b");
         Check.due("no longer at the end", flow.line(0), 11);
+        LineFlow two = new LineFlow();
+        int ends = Check.element(two, 0);
+        Check.text(two, ends, "a ");
+        int begins = Check.element(two, 0);
+        Check.text(two, begins, "b");
+        Check.due("a blank at the end", two.line(ends), 4);
+        Check.due("is none at the begin of another line", two.line(begins), 4);
     }
 
     private static void sizeOfElement() {
