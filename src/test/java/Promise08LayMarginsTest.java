@@ -79,6 +79,24 @@ public final class Promise08LayMarginsTest {
         Check.due("deep", made.flow.box(deep, 1), 11);
     }
 
+    /** What is laid like a block though its display is inline: nothing that lies in it joins. */
+    private static void liesInInline() {
+        Check.sentence("it a BLOCK that lies in one of display block: not inline");
+        Promise08LayMarginsTest made = two(2, 5);
+        int deep = Check.element(made.flow, made.in, Check.MARGIN, 9, Check.HEIGHT, 1);
+        made.flow.set(made.in, Check.HEIGHT, NONE);
+        made.flow.set(made.outer, Check.DISPLAY, 1);
+        made.flow.set(made.outer, Check.FLOAT, 1);
+        made.due("in an inline float", 2 + 29 + 2, 2, 29, 7);
+        Check.due("deep in an inline float", made.flow.box(deep, 1), 16);
+        Check.dueMargins("in an inline float", made.flow, made.in, 5, 5);
+        made.flow.set(made.outer, Check.FLOAT, 0);
+        made.flow.set(0, Check.DISPLAY, 2);
+        made.due("in an inline one of a flex", 2 + 29 + 2, 2, 29, 7);
+        Check.due("deep in an inline one of a flex", made.flow.box(deep, 1), 16);
+        Check.dueMargins("in an inline one of a flex", made.flow, made.in, 5, 5);
+    }
+
     private static void notRoot() {
         Check.sentence("(not THE ROOT");
         LineFlow flow = new LineFlow();
@@ -231,6 +249,7 @@ public final class Promise08LayMarginsTest {
         ownDisplay();
         liesInBlock();
         liesInBlockThatIsNoFlow();
+        liesInInline();
         notRoot();
         noFloat();
         firstIsNoBlock();
